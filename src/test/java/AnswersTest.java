@@ -3,6 +3,7 @@ public final class AnswersTest {
     public static void main(String[] args) {
         answers();
         answersOfGivenDigitsAlone();
+        answersOfLoneCells();
         givenUp();
         lastTry();
         lastTryOfAll();
@@ -55,6 +56,21 @@ public final class AnswersTest {
         dueAnswers(sum, "a wrong sum of given ones", 0, 0, 0, 0, 0);
         sum.setSum(0, 9);
         dueAnswers(sum, "a right sum of given ones", 1, 2, 3, 4, 5);
+    }
+
+    /** Cells that no run has are not bound by the sums of the runs beside them. */
+    private static void answersOfLoneCells() {
+        Gridpuzzle lone = Boards.drawn(3, 0, 0, -1, -1, -1, -1, -1, -1, 0);
+        dueAnswers(Boards.withSums(lone, 3), "a lone cell and a run", 1, 2, 3, 4, 5);
+        Gridpuzzle moved = Boards.drawn(3, 0, -1, -1, 0, -1, -1, -1, -1, -1);
+        Check.due("lengthOf(0) of a column", moved.lengthOf(0), 2);
+        moved.bar(0);
+        moved.bar(9);
+        moved.bar(10);
+        moved.give(9, 1);
+        dueAnswers(Boards.withSums(moved, 3), "a cell that has lost its run", 1, 2, 3, 4, 5);
+        Gridpuzzle next = Boards.drawn(4, 1, 2, 3, 4, 0, -1, -1, -1, -1, -1, -1, -1, -1, -1, -1, -1);
+        dueAnswers(Boards.withSums(next, 10), "a cell in a column alone", 1, 2, 3, 4, 5);
     }
 
     private static void givenUp() {

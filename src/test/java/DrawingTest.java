@@ -190,6 +190,9 @@ public final class DrawingTest {
         Boards.dueThrown("press() of a lone one without", lone, lone::press, Check.STATE);
         Gridpuzzle row = Boards.withSums(Boards.drawn(2, 1, 2, 3, 3), 7);
         Boards.dueThrown("press() of a digit twice in a row", row, row::press, Check.STATE);
+        Gridpuzzle first = Boards.withSums(Boards.drawn(2, 3, 3, 1, 2), 7);
+        Boards.dueThrown("press() of a digit twice in the first run", first, first::press,
+                Check.STATE);
         Gridpuzzle column = Boards.drawn(3, 1, 2, 3, 4, 5, 6, 7, 8, 3);
         Boards.dueThrown("press() of a digit twice in a column", column, column::press,
                 Check.STATE);

@@ -145,6 +145,13 @@ public final class RulesTest {
         dueSets("rule 3 takes at once", ten, 3, ALL & ~set(5, 9), ALL & ~set(1, 5), set(9),
                 ALL & ~set(9));
         dueRules("rule 3 without an end", ten, -1, -1, -1);
+        // Of 10 in four cells 1 2 3 4, and of 30 6 7 8 9.
+        Gridpuzzle four = Boards.withSums(Boards.drawn(4), 10, 0, 0, 30);
+        for (int cell = 0; cell < 4; cell++) {
+            Check.due("rule 3 of four cells", four.candidates(cell, 3), set(1, 2, 3, 4));
+            Check.due("rule 3 of no sum", four.candidates(4 + cell, 3), ALL);
+            Check.due("rule 3 of the sum 30", four.candidates(12 + cell, 3), set(6, 7, 8, 9));
+        }
     }
 
     private static void endsAtAnEmptyCell() {
@@ -158,6 +165,18 @@ public final class RulesTest {
         Gridpuzzle first = Boards.withSums(Boards.drawn(2, 5, 5, 0, 0), 0, 3);
         dueSets("empty by rule 1", first, 3, set(5), 0, ALL & ~set(5), ALL);
         dueRules("empty by rule 1", first, -1, -1, -1);
+        // The first row makes 17 by 8 9, the first column 3 by 1 2: the cell 0 alone is emptied,
+        // and the rule 3 is not gone through, which would take all from both runs.
+        Gridpuzzle corner = Boards.withSums(Boards.drawn(2), 17, 0, 3);
+        dueSets("the first cell is emptied", corner, 3, 0, set(8, 9), set(1, 2), ALL);
+        dueRules("the first cell is emptied", corner, -1, -1, -1);
+        // The first row makes 10 by 1 2 3 4, but three of its cells have 1 2 alone: the rule 3
+        // empties it and the columns that hold them, and leaves the cell 4 as it is.
+        Gridpuzzle crowded = Boards.drawn(4, 0, 0, 0, 0, 0, 0, 0, 0, -1, -1, -1, -1);
+        Boards.withSums(crowded, 10, 0, 0, 0, 3, 3, 3);
+        dueSets("before it is emptied", crowded, 2, set(1, 2, 3, 4), set(1, 2), set(1, 2),
+                set(1, 2), ALL, set(1, 2), set(1, 2), set(1, 2), ALL, ALL, ALL, ALL);
+        dueSets("emptied by rule 3", crowded, 3, 0, 0, 0, 0, ALL, 0, 0, 0, ALL, ALL, ALL, ALL);
         // The second row makes 8 without 8, the first column 9 by 1 8: the cell 4 is emptied, in
         // that column, and the cell 5 keeps what the row had left it before.
         Gridpuzzle second = Boards.withSums(Boards.drawn(2, 1, 0, 0, 0), 0, 8, 9);
@@ -171,6 +190,8 @@ public final class RulesTest {
         Check.due("level() of a lone blank cell", Boards.drawn(2, 4, -1, -1, 0).level(), -1);
         Check.due("level() of all given", Boards.drawn(2, 1, 2, 3, 4).level(), 0);
         Check.due("level() of one twice", Boards.drawn(2, 1, 2, 2, 2).level(), -1);
+        Check.due("level() of the first cell alone blank", Boards.drawn(2, 0, 1, 2, 3).level(), -1);
+        Check.due("level() of the last cell alone blank", Boards.drawn(2, 1, 2, 2, 0).level(), -1);
         Gridpuzzle right = Boards.withSums(Boards.drawn(2, 1, 2, 3, 4), 3, 7, 4, 6);
         Check.due("level() of right sums", right.level(), 0);
         right.setSum(3, 7);
