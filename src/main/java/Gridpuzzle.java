@@ -252,7 +252,7 @@ public final class Gridpuzzle {
         }
 
         boolean isOpen(int cell) {
-            return hasCell(cell) && givenAt(cell) != NONE;
+            return hasCell(cell) && at(givens, cell) != NONE;
         }
 
         int givenAt(int cell) {
@@ -291,7 +291,7 @@ public final class Gridpuzzle {
         }
 
         boolean isBlank(int cell) {
-            return isOpen(cell) && givenAt(cell) == 0;
+            return hasCell(cell) && at(givens, cell) == 0;
         }
 
         int countBlanks() {
@@ -702,17 +702,13 @@ public final class Gridpuzzle {
             int length = board.lengthAt(run);
             for (int place = 0; place < length; place++) {
                 int set = at(sets, board.cellAt(run, place));
-                if (isSingle(set)) {
-                    takeFromOthers(run, place, set);
+                if (!isSingle(set)) {
+                    continue;
                 }
-            }
-        }
-
-        private void takeFromOthers(int run, int keeper, int digits) {
-            int length = board.lengthAt(run);
-            for (int place = 0; place < length; place++) {
-                if (place != keeper) {
-                    take(board.cellAt(run, place), digits);
+                for (int other = 0; other < length; other++) {
+                    if (other != place) {
+                        take(board.cellAt(run, other), set);
+                    }
                 }
             }
         }
@@ -758,22 +754,20 @@ public final class Gridpuzzle {
         private void takeUnfit(int run) {
             int length = board.lengthAt(run);
             for (int place = 0; place < length; place++) {
+                put(setsOfRun, place, at(sets, board.cellAt(run, place)));
+            }
+            for (int place = 0; place < length; place++) {
                 int cell = board.cellAt(run, place);
                 for (int digit = 1; digit <= MOST_DIGIT; digit++) {
-                    int bit = 1 << digit;
-                    if ((at(sets, cell) & bit) != 0 && !fits(run, place, bit)) {
+                    int bit = at(sets, cell) & 1 << digit;
+                    // While a candidate is looked at, its cell has no other one.
+                    put(setsOfRun, place, bit);
+                    if (bit != 0 && !canMake(setsOfRun, length, board.sumAt(run), 0)) {
                         take(cell, bit);
                     }
                 }
+                put(setsOfRun, place, at(sets, cell));
             }
-        }
-
-        private boolean fits(int run, int fixed, int bit) {
-            int length = board.lengthAt(run);
-            for (int place = 0; place < length; place++) {
-                put(setsOfRun, place, place == fixed ? bit : at(sets, board.cellAt(run, place)));
-            }
-            return canMake(setsOfRun, length, board.sumAt(run), 0);
         }
 
         /** Whether the first sets can give unlike digits, none of those used, that make the sum. */
