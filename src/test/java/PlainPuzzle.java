@@ -29,6 +29,7 @@ final class PlainPuzzle {
     private TreeMap<Integer, Integer> given = new TreeMap<>();
     private TreeMap<Integer, Integer> sums = new TreeMap<>();
 
+    private int mostTries = 20000;
     private int tries;
     private List<TreeMap<Integer, Integer>> answersFound = new ArrayList<>();
     private TreeMap<Integer, TreeSet<Integer>> sets = new TreeMap<>();
@@ -239,6 +240,11 @@ final class PlainPuzzle {
         return NONE;
     }
 
+    /** Has trying given up behind another number of tries than the document's. */
+    void allowTries(int most) {
+        mostTries = most;
+    }
+
     /** How many tries the last search made. */
     int tries() {
         return tries;
@@ -364,7 +370,7 @@ final class PlainPuzzle {
         }
         int cell = blanks.get(place);
         for (int digit = 1; digit <= 9; digit++) {
-            if (tries == 20000) {
+            if (tries == mostTries) {
                 throw new GivenUp();
             }
             tries++;
