@@ -11,8 +11,17 @@ final class Check {
     static final long STATE = Long.MIN_VALUE + 2;
     private static final long OTHER = Long.MIN_VALUE + 3;
 
+    // Far above what the longest test needs: a call that does not end has to fail, not to hang.
+    private static final long MOST_MILLIS = 300_000;
+
     private static long made = 0;
     private static long wrong = 0;
+
+    static {
+        Thread guard = new Thread(Check::endWhenTooLong);
+        guard.setDaemon(true);
+        guard.start();
+    }
 
     private Check() {
     }
@@ -68,6 +77,16 @@ final class Check {
             return "throws.IllegalStateException";
         }
         return answer == OTHER ? "throws.another" : Long.toString(answer);
+    }
+
+    private static void endWhenTooLong() {
+        try {
+            Thread.sleep(MOST_MILLIS);
+        } catch (InterruptedException e) {
+            return;
+        }
+        System.out.println("a call does not end");
+        Runtime.getRuntime().halt(1);
     }
 
     static boolean anyWrong() {
