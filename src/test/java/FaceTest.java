@@ -1,12 +1,22 @@
+import java.io.IOException;
 import java.lang.reflect.Constructor;
 import java.lang.reflect.Field;
 import java.lang.reflect.Method;
 import java.lang.reflect.Modifier;
+import java.nio.file.Files;
+import java.nio.file.Path;
+import java.util.ArrayList;
 import java.util.Arrays;
+import java.util.List;
 import java.util.Set;
 import java.util.TreeSet;
+import java.util.regex.Matcher;
+import java.util.regex.Pattern;
 
-/** The public face is the document's, with its throws clauses, and no member more. */
+/**
+ * The public face is the document's, with its throws clauses, no member more, and the words that
+ * the document wants ahead of them; run in the project's folder.
+ */
 public final class FaceTest {
     private static final String[] FACE = {
         "public static final int NONE",
@@ -34,7 +44,14 @@ public final class FaceTest {
         "public int hintRules()",
     };
 
-    public static void main(String[] args) {
+    // What the document has the interface say, and the calls behind it, in its order.
+    private static final List<String> WORDS = List.of(
+            "---- drawing", "begin", "bar", "barBoth", "give", "setSum", "press",
+            "---- the board", "open", "runs", "firstOf", "lengthOf", "sumOf", "digit",
+            "---- answers", "answers", "answersByAll", "mend",
+            "---- rules", "level", "candidates", "hint", "hintRules");
+
+    public static void main(String[] args) throws IOException {
         Set<String> found = new TreeSet<>();
         Set<String> publicNames = new TreeSet<>();
         for (Field field : Gridpuzzle.class.getDeclaredFields()) {
@@ -61,6 +78,7 @@ public final class FaceTest {
         Check.due("Gridpuzzle is public and final", Gridpuzzle.class.getModifiers(),
                 Modifier.PUBLIC | Modifier.FINAL);
         Check.due("NONE", Gridpuzzle.NONE, -1);
+        dueWordsAhead();
         Check.end("FaceTest");
     }
 
@@ -77,6 +95,17 @@ public final class FaceTest {
             told.append(i == 0 ? "" : ", ").append(types[i].getSimpleName());
         }
         return told.append(close).toString();
+    }
+
+    private static void dueWordsAhead() throws IOException {
+        String text = Files.readString(Path.of("src", "main", "java", "Gridpuzzle.java"));
+        List<String> words = new ArrayList<>();
+        Matcher matcher = Pattern.compile("// (----.*)|\n    public \\w+ (\\w+)\\(").matcher(text);
+        while (matcher.find()) {
+            words.add(matcher.group(1) != null ? matcher.group(1) : matcher.group(2));
+        }
+        Check.due("the words ahead of the calls are the document's, not " + words,
+                words.equals(WORDS), true);
     }
 
     /** LANGUAGE.md, rule 1: no private method bears the name of a public one. */
