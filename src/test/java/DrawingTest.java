@@ -16,6 +16,7 @@ public final class DrawingTest {
         give();
         setSum();
         press();
+        pressInPlaceOfSums();
         pressThrows();
         Check.end("DrawingTest");
     }
@@ -181,6 +182,19 @@ public final class DrawingTest {
         Boards.dueState("behind press() of 4 rows", four, "0000000000000000 open 16,"
                 + " 0 by 4 makes 30, 4 by 4 makes 30, 8 by 4 makes 10, 12 by 4 makes 10,"
                 + " 0 by 4 makes 20, 1 by 4 makes 20, 2 by 4 makes 20, 3 by 4 makes 20");
+    }
+
+    /** Whatever sum a run had before, right or wrong, it gets that of its digits. */
+    private static void pressInPlaceOfSums() {
+        for (int run = 0; run < 4; run++) {
+            for (int sum = 0; sum <= 45; sum++) {
+                Gridpuzzle puzzle = Boards.drawn(2, 1, 2, 3, 4);
+                puzzle.setSum(run, sum);
+                Check.due("press() where the run " + run + " makes " + sum, puzzle.press(), 4);
+                Boards.dueState("behind it", puzzle, "00xx00xxxxxxxxxx open 4, 0 by 2 makes 3,"
+                        + " 4 by 2 makes 7, 0 by 2 makes 4, 1 by 2 makes 6");
+            }
+        }
     }
 
     private static void pressThrows() {

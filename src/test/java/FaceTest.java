@@ -119,6 +119,10 @@ public final class FaceTest {
         for (Class<?> inside : Gridpuzzle.class.getDeclaredClasses()) {
             Check.due(inside + " is static", Modifier.isStatic(inside.getModifiers()), true);
             Check.due(inside + " is not public", Modifier.isPublic(inside.getModifiers()), false);
+            for (Method method : inside.getDeclaredMethods()) {
+                Check.due(method + " has no name of the face",
+                        publicNames.contains(method.getName()), false);
+            }
         }
     }
 }

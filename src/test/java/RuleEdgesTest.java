@@ -20,8 +20,11 @@ public final class RuleEdgesTest {
         lastRuleAlone();
         ruleOneBeginsAgain();
         ruleTwoLooksThen();
+        ruleTwoLooksOnce();
+        ruleTwoOfTwoAlike();
         ruleThreeBeginsAgain();
         endsBehindRuleThree();
+        goesOnAsLongAsItTakesAway();
         emptyRunBesideTheEdge();
         barsDoNotEndIt();
         levelOfEachRule();
@@ -218,6 +221,28 @@ public final class RuleEdgesTest {
                 ALL & ~set(9), ALL, 0, 0, 0);
     }
 
+    /** What the rule 2 leaves of a cell of a run says nothing of the sets of this run as yet. */
+    private static void ruleTwoLooksOnce() {
+        // The first row makes 5, so that the first column, which makes 13, leaves the cell 0 the 4
+        // alone, and the cell 4 what is in 4 9, 5 8 and 6 7. Only then 4 9 is the one set that has
+        // the 4, and the cell 4 is emptied; the cell 1 has come to 1 before, in the same going.
+        Gridpuzzle puzzle = Boards.withSums(Boards.drawn(2, 0, 0, 0, 9), 5, 0, 13);
+        dueCandidates("a run of the rule 2", puzzle, 2, set(4), set(1), 0, set(9));
+        dueCandidates("a run of the rule 2", puzzle, 3, set(4), set(1), 0, set(9));
+    }
+
+    /** Two cells of a run that have the same candidate alone: its sets need this digit once. */
+    private static void ruleTwoOfTwoAlike() {
+        // The rows leave the cells 0 and 4 the 2, by 1 2 and 2 6. Their column makes 9 by 1 2 6 and
+        // 2 3 4, which the cell 8 keeps; then the rule 1 takes the 2 from it and empties the cell 4.
+        Gridpuzzle puzzle = Boards.drawn(3, 0, 1, -1, 0, 6, -1, 0, 0, 0);
+        Boards.withSums(puzzle, 3, 8, 0, 9);
+        dueCandidates("two cells alike", puzzle, 2, set(2), set(1), 0, 0, set(6), 0,
+                set(1, 3, 4, 6), ALL & ~set(1, 6), ALL);
+        dueCandidates("two cells alike", puzzle, 3, set(2), set(1), 0, 0, set(6), 0,
+                set(1, 3, 4, 6), ALL & ~set(1, 6), ALL);
+    }
+
     /** When the rule 3 has taken something away, it begins with the rule 1. */
     private static void ruleThreeBeginsAgain() {
         // 5 4 3 / 8 7 9 / 9 1 7: the cell 0 loses the 9 by the rule 3, and the cell 10 by the
@@ -242,6 +267,22 @@ public final class RuleEdgesTest {
         Check.due("level(), the rule 3 empties columns", puzzle.level(), -1);
         Check.due("hint(), the rule 3 empties columns", puzzle.hint(), 0);
         Check.due("hintRules(), the rule 3 empties columns", puzzle.hintRules(), 3);
+    }
+
+    /** There is no last going through as long as something is taken away: here are 53 of them. */
+    private static void goesOnAsLongAsItTakesAway() {
+        int[] digits = {8, 1, 9, -1, 4, 9, -1, -1, -1, 8, 1, 5, 8, 6, 9, 4};
+        Gridpuzzle puzzle = Boards.pressed(4, digits);
+        puzzle.give(14, 9);
+        Check.due("answers(5) of many goings", puzzle.answers(5), 1);
+        Check.due("level() of many goings", puzzle.level(), 3);
+        Check.due("hint() of many goings", puzzle.hint(), 10);
+        Check.due("hintRules() of many goings", puzzle.hintRules(), 2);
+        for (int cell = 0; cell < 16; cell++) {
+            int due = digits[cell] == -1 ? 0 : 1 << digits[cell];
+            Check.due("candidates(" + cell + ", 3) of many goings", puzzle.candidates(cell, 3),
+                    due);
+        }
     }
 
     /** What is taken from a whole row is not taken from the cells behind and before its ends. */
