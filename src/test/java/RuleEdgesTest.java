@@ -234,7 +234,7 @@ public final class RuleEdgesTest {
     /** Two cells of a run that have the same candidate alone: its sets need this digit once. */
     private static void ruleTwoOfTwoAlike() {
         // The rows leave the cells 0 and 4 the 2, by 1 2 and 2 6. Their column makes 9 by 1 2 6 and
-        // 2 3 4, which the cell 8 keeps; then the rule 1 takes the 2 from it and empties the cell 4.
+        // 2 3 4, which the cell 8 keeps; then the rule 1 takes its 2 away and empties the cell 4.
         Gridpuzzle puzzle = Boards.drawn(3, 0, 1, -1, 0, 6, -1, 0, 0, 0);
         Boards.withSums(puzzle, 3, 8, 0, 9);
         dueCandidates("two cells alike", puzzle, 2, set(2), set(1), 0, 0, set(6), 0,
