@@ -11,6 +11,7 @@ public final class DrawingTest {
     public static void main(String[] args) {
         newObject();
         begin();
+        beginBehindEachSize();
         bar();
         barBoth();
         give();
@@ -54,6 +55,26 @@ public final class DrawingTest {
                 kept.begin(size);
                 return 0;
             }, Check.ARGUMENT);
+        }
+    }
+
+    /** From each size to each, and on to a third: nothing of the boards before is left. */
+    private static void beginBehindEachSize() {
+        String[] begun = {BOARD_OF_TWO, NEW_BOARD, BOARD_OF_FOUR};
+        for (int sizes = 0; sizes < 27; sizes++) {
+            Gridpuzzle puzzle = new Gridpuzzle();
+            String of = "";
+            for (int size : new int[] {sizes / 9 + 2, sizes / 3 % 3 + 2, sizes % 3 + 2}) {
+                puzzle.begin(size);
+                of += "begin(" + size + ") ";
+                Boards.dueState(of, puzzle, begun[size - 2]);
+                puzzle.barBoth(1);
+                puzzle.give(0, size);
+                puzzle.give(4 * size - 4 + size - 1, 9);
+                for (int run = 0; run < puzzle.runs(); run++) {
+                    puzzle.setSum(run, 20 + run);
+                }
+            }
         }
     }
 
